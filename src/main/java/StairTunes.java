@@ -945,11 +945,11 @@ public final class StairTunes {
         int soundsIn(int minute, int lowest, int highest) {
             int notesHeard = 0;
             for (int w = 0; w < walkers; w++) {
-                int t = placeIn(w, minute);
-                if (t == NONE || t < lowest || t > highest) {
+                int t = treadOf(w, minute - partOf(w, START));
+                if (!hasTread(t) || t < lowest || t > highest) {
                     continue;
                 }
-                int sound = soundAs(kindOf(t), toneOf(t), partOf(w, STEP));
+                int sound = soundAs(kinds[t], toneOf(t), partOf(w, STEP));
                 if (sound != REST) {
                     notesHeard |= 1 << sound;
                 }
@@ -960,9 +960,13 @@ public final class StairTunes {
         /** The whole TUNE as one number: like TUNES, and no others, have like numbers. */
         long tuneNumber(int w) {
             long number = 1;
-            int length = longOf(w);
-            for (int k = 0; k < length; k++) {
-                number = number * 16 + soundOf(w, k);
+            int step = partOf(w, STEP);
+            for (int k = 0; k < TREADS; k++) {
+                int t = treadOf(w, k);
+                if (!hasTread(t)) {
+                    break;
+                }
+                number = number * 16 + soundAs(kinds[t], toneOf(t), step);
             }
             return number;
         }

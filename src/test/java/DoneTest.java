@@ -138,6 +138,9 @@ public final class DoneTest {
         for (int t = 0; t < 6; t++) {
             DUE.is("walkers on " + t, x.tread(t, 3), walkers[t]);
         }
+        x.way(0, 5, 5);
+        DUE.is("walkers but the first", x.tread(0, 3), 2);
+        DUE.is("nobody", Due.townOf("t0,0;p0;p0;z0,0,1,0;").tread(1, 3), 0);
         DUE.is("what above", x.tread(0, 4), BAD);
         DUE.is("what below", x.tread(0, -1), BAD);
         DUE.is("no such tread", x.tread(6, 0), BAD);

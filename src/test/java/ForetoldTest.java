@@ -112,6 +112,8 @@ public final class ForetoldTest {
         DUE.is("of other lengths", x.twins(0), 0);
         Due.tell(x, "t0,0;r0;f1;z0,0,1,0;z1,1,1,0;");
         DUE.is("rests alike", x.twins(0), 1);
+        Due.tell(x, "t0,0;p1;p2;z0,1,1,0;z1,0,1,0;");
+        DUE.is("like sounds, another order", x.twins(0), 0);
     }
 
     private static void felt(StairTunes x, int walker, int tread, int many, int which) {
@@ -152,6 +154,9 @@ public final class ForetoldTest {
         x.way(1, 3, 3);
         DUE.is("nothing of one", x.doors(0), NONE);
         DUE.is("no such set", x.doors(1), NONE);
+        Due.tell(x, "t0,0;p1;p1;p1;z0,2,2,0;z1,2,1,0;");
+        DUE.is("one, not two lesser ones", x.doors(0), 1);
+        DUE.is("which one", x.doors(1), 4);
     }
 
     private static void promise27Planed() {
@@ -171,6 +176,10 @@ public final class ForetoldTest {
         DUE.is("twins by wear", x.twins(0), 3);
         DUE.is("planed to what it was", x.planed(0), 1);
         DUE.is("one pair is left", x.planed(1), 1);
+        Due.tell(x, "t0,0;p1;p0;p0;z0,0,1,0;z1,1,1,0;z2,2,1,0;");
+        x.days(10);
+        DUE.is("each is worn as it is but the planed one", x.planed(0), 1);
+        DUE.is("one pair is left by any", x.planed(1), 1);
     }
 
     private static void promise28Rise() {
@@ -193,6 +202,8 @@ public final class ForetoldTest {
         Due.tell(x, "t0,0;p3;p4;p5;r0;z3,3,1,0;z0,0,1,20;");
         DUE.is("heard in his walk, not by him", x.rise(0, 0, 1, 1), 120);
         DUE.is("once for each step", x.rise(0, 0, 1, 0), 3);
+        Due.tell(x, "t0,0;p3;p4;z0,1,1,0;z0,0,1,5;");
+        DUE.is("in his second minute", x.rise(0, 1, 1, 0), 63);
     }
 
     private static void lay(StairTunes x, int row, int... items) {
@@ -323,6 +334,8 @@ public final class ForetoldTest {
         DUE.is("tones in six days", x.drawn(6, 1, 1), 9);
         DUE.is("seven days", x.drawn(7, 1, 0), 7);
         DUE.is("tones in seven days", x.drawn(7, 1, 1), 4);
+        x.days(4);
+        DUE.is("worn in the weeks", x.drawn(6, 1, 1), 8);
         // X 7 by 5 leaves 4.
         Due.tell(x, "t0,0;r0;r0;r0;r0;p0;z0,4,1,0;z4,4,1,0;");
         DUE.is("steps that sound", x.drawn(7, 1, 0), 14);
