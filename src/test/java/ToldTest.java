@@ -10,6 +10,7 @@ public final class ToldTest {
         promise7FaultsOfTreads();
         promise7FaultsOfWalkers();
         promise7FaultKeepsTheTown();
+        promise7TheTapeIsEmptyThen();
         promise8Fault();
         promise9Undo();
         promise9UndoOfEachAct();
@@ -145,6 +146,22 @@ public final class ToldTest {
         DUE.is("note stays", x.tread(0, 0), 3);
         DUE.is("start stays", x.walker(0, 3), 4);
         DUE.is("undo yet", x.undo(), 1);
+    }
+
+    /** Bytes of the tape before must not be read on behind the end of a shorter one. */
+    private static void promise7TheTapeIsEmptyThen() {
+        String whole = "t0,0;p1;z0,0,1,0;";
+        for (int end = 0; end < whole.length(); end++) {
+            StairTunes x = Due.townOf(whole);
+            DUE.is("cut at " + end, Due.tell(x, whole.substring(0, end)), -1000100 - end);
+            DUE.is("fault of the cut at " + end, x.fault(), 1);
+        }
+        StairTunes x = Due.townOf(whole + "z0,0,1,0;");
+        DUE.is("whole, but shorter", Due.tell(x, whole), 1);
+        DUE.is("one walker", x.count(2), 1);
+        DUE.is("a number, no figures behind it", Due.tell(x, "t0"), -1000102);
+        DUE.is("two figures, then one", Due.tell(x, "t15,9;p1;z0,0,1,20;"), 1);
+        DUE.is("one figure at the end", Due.tell(x, "t1"), -1000102);
     }
 
     private static void promise8Fault() {
